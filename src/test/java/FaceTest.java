@@ -1,0 +1,69 @@
+import java.lang.reflect.Constructor;
+import java.lang.reflect.Field;
+import java.lang.reflect.Method;
+import java.lang.reflect.Modifier;
+import java.util.TreeSet;
+
+/** The face is that of the document, with nothing more to be seen from outside. */
+public final class FaceTest {
+    private static final String[] METHODS = {
+        "void image(int long)", "int input(long int)", "void begin()", "int run(int)", "int register(int)",
+        "int unknown(int)", "int memory(int)", "int error(int int)", "int output(int)", "int count(int)",
+    };
+
+    public static void main(String[] args) {
+        Class<?> face = ShadowHost.class;
+        Check.due("public and final", face.getModifiers(), Modifier.PUBLIC | Modifier.FINAL);
+        TreeSet<String> want = new TreeSet<>(java.util.List.of(METHODS));
+        TreeSet<String> got = new TreeSet<>();
+        for (Method m : face.getDeclaredMethods()) {
+            if (!Modifier.isPrivate(m.getModifiers())) {
+                got.add(told(m));
+            }
+        }
+        System.out.println(got.equals(want) ? "the methods are those of the document" : got + " but due is " + want);
+        Check.due("the methods are those of the document", got.equals(want) ? 1 : 0, 1);
+        for (Field f : face.getDeclaredFields()) {
+            Check.due("field " + f.getName() + " is private", Modifier.isPrivate(f.getModifiers()) ? 1 : 0, 1);
+        }
+        Constructor<?>[] made = face.getDeclaredConstructors();
+        Check.due("constructors", made.length, 1);
+        Check.due("its parameters", made[0].getParameterCount(), 0);
+        classesInside(face);
+        Check.finish();
+    }
+
+    private static String told(Method m) {
+        StringBuilder text = new StringBuilder();
+        for (Class<?> c : m.getParameterTypes()) {
+            text.append(text.length() == 0 ? "" : " ").append(c);
+        }
+        return m.getReturnType() + " " + m.getName() + "(" + text + ")";
+    }
+
+    /** LANGUAGE.md, rules 1, 5 and 11. */
+    private static void classesInside(Class<?> face) {
+        Class<?>[] inside = face.getDeclaredClasses();
+        Check.due("at most twelve classes", inside.length + 1 <= 12 ? 1 : 0, 1);
+        for (Class<?> c : inside) {
+            int m = c.getModifiers();
+            Check.due(c + " is static", Modifier.isStatic(m) ? 1 : 0, 1);
+            Check.due(c + " is hidden", Modifier.isPublic(m) || Modifier.isProtected(m) ? 1 : 0, 0);
+            int fields = 0;
+            for (Field f : c.getDeclaredFields()) {
+                if (Modifier.isStatic(f.getModifiers())) {
+                    Check.due(f + " is final", Modifier.isFinal(f.getModifiers()) ? 1 : 0, 1);
+                } else {
+                    fields++;
+                }
+            }
+            Check.due(c + " has at most twenty fields", fields <= 20 ? 1 : 0, 1);
+            for (Method own : c.getDeclaredMethods()) {
+                for (String name : METHODS) {
+                    boolean same = name.contains(" " + own.getName() + "(");
+                    Check.due(own + " has a name of its own", same ? 1 : 0, 0);
+                }
+            }
+        }
+    }
+}
