@@ -27,7 +27,24 @@ public final class BeginTest {
         for (int i = 0; i < before.length; i++) {
             Check.due("the same once more, " + i, after[i], before[i]);
         }
+        noBlocks();
         Check.finish();
+    }
+
+    /** No BLOCK of before is LIVE or KEPT, nor are its octets counted with those that are KEPT. */
+    private static void noBlocks() {
+        ShadowHost host = new Asm().call(2, 2000).word(Asm.addi(18, 10, 0)).call(2, 8).word(Asm.addi(10, 18, 0)).call(3)
+                .word(Asm.BREAK).done();
+        Check.due("LIVE", host.count(7), 1);
+        Check.due("KEPT", host.count(8), 1);
+        new Asm().call(2, 100).call(3).call(3, 32784 + 2016).word(Asm.BREAK).into(host).run(100);
+        Check.due("TRAP 3", host.count(1), 3);
+        Check.due("LIVE", host.count(7), 0);
+        Check.due("KEPT", host.count(8), 1);
+        Check.error("no BLOCK there", host, 0, 7, 36, 32784 + 2016);
+        new Asm().call(3, 32784).call(3, 32784 + 2016).word(Asm.BREAK).into(host).run(100);
+        Check.error("no KEPT one there", host, 0, 7, 12, 32784);
+        Check.error("no LIVE one there", host, 1, 7, 28, 32784 + 2016);
     }
 
     private static int[] all(ShadowHost host) {

@@ -1,5 +1,7 @@
 /** Promise 9: error, with the ERRORS 1 to 5 and the RETURNS of term 2. */
 public final class ErrorTest {
+    private static final int FIRST = 32784;
+
     public static void main(String[] args) {
         wrongInputs();
         ofInstructions();
@@ -41,6 +43,14 @@ public final class ErrorTest {
         Check.error("the first octet that is not OPEN", half, 0, 1, 32788, 32790);
         Check.error("then none is", half, 1, 1, 32792, 32792);
         Check.due("the first word is OPEN", half.count(5), 2);
+        for (int n = 5; n <= 8; n++) {
+            // All octets of the second word have bits in common, so that none of them stands for OPEN by chance.
+            ShadowHost some = new Asm().call(2, n).li(6, 0x1F1F1F17).words(Asm.store(2, 6, 10, 4), Asm.jalr(0, 10, 4)).done();
+            Check.due("the word is done", some.register(30), 0x1F1F1000 + FIRST + 4);
+            boolean whole = n == 8;
+            Check.error("OPEN are " + n, some, 0, whole ? 1 : 4, whole ? FIRST + 8 : 24, FIRST + n);
+            Check.due("and of the word itself", some.count(5), whole ? 1 : 3);
+        }
         // TRAP 3 with ERROR 1.
         ShadowHost breaks = new Asm().li(5, 20000).li(6, Asm.BREAK).words(Asm.store(2, 6, 5, 0), Asm.jalr(0, 5, 0)).done();
         Check.due("TRAP 3", breaks.count(1), 3);

@@ -7,7 +7,19 @@ public final class LostTest {
         inMemory();
         inBlocks();
         told();
+        foundAnew();
         Check.finish();
+    }
+
+    /** What an earlier EXIT had FOUND does not count behind begin(). */
+    private static void foundAnew() {
+        ShadowHost host = new Asm().call(2, 20).words(Asm.store(2, 10, 2, -4), Asm.addi(5, 10, 0)).call(2, 20)
+                .words(Asm.store(2, 10, 5, 0), Asm.addi(5, 0, 0)).call(1, 0).done();
+        Check.due("FOUND", host.count(5), 0);
+        host.image(16, 0x0F | (long) Asm.addi(5, 10, 0) << 32);
+        host.begin();
+        Check.due("EXIT", host.run(100), 1);
+        lost("no more", host, FIRST, FIRST + 48);
     }
 
     /** Ends the program with x10 0; the numbers it wrote by li are gone from x5, x10 and x11. */
@@ -35,8 +47,17 @@ public final class LostTest {
         lost("of no octets", end(new Asm().call(2, 0).word(Asm.addi(31, 10, 0))));
         lost("of no octets, behind it", end(new Asm().call(2, 0).word(Asm.addi(31, 10, 1))), FIRST);
         lost("a bit is not GIVEN", end(new Asm().call(2, 20).words(Asm.i(0x13, 7, 6, 31, 1), Asm.r(0, 4, 30, 10, 6))), FIRST);
+        for (int other : new int[] {57343, 57344, 32767, 32768, -1, Integer.MIN_VALUE}) {
+            lost("another number: " + other, end(new Asm().call(2, 20).li(31, other)), FIRST);
+        }
         lost("given back", end(new Asm().call(2, 20).call(3)));
         lost("free again", end(new Asm().call(2, 3000).call(3)));
+    }
+
+    /** A BLOCK whose address lies on the STACK; one octet of it, or two, are stored again as they are, but not GIVEN. */
+    private static Asm ungiven(int octet, int storing, int reading) {
+        return new Asm().call(2, 20).words(Asm.store(2, 10, 2, -4), Asm.load(reading, 5, 2, octet - 4), Asm.r(0, 4, 31, 31, 5),
+                Asm.store(storing, 31, 2, octet - 4), Asm.addi(31, 0, 0));
     }
 
     private static void inMemory() {
@@ -50,8 +71,12 @@ public final class LostTest {
         ShadowHost shut = end(new Asm().call(2, 20).li(5, 20000).word(Asm.store(2, 10, 5, 0)));
         Check.error("not OPEN", shut, 1, 8, shut.count(2), FIRST);
         Check.due("two", shut.count(5), 2);
-        ShadowHost half = end(new Asm().call(2, 20).words(Asm.store(2, 10, 2, -4), Asm.store(0, 31, 2, -1)));
-        lost("an octet is not GIVEN", half, FIRST);
+        for (int octet = 0; octet < 4; octet++) {
+            lost("octet " + octet + " is not GIVEN", end(ungiven(octet, 0, 4)), FIRST);
+            if (octet < 3) {
+                lost("octet " + octet + " and the next one are not GIVEN", end(ungiven(octet, 1, 5)), FIRST);
+            }
+        }
         ShadowHost again = end(new Asm().call(2, 20).words(Asm.store(1, 10, 2, -4), Asm.store(1, 0, 2, -2)));
         lost("by halves, all GIVEN", again);
     }
