@@ -35,6 +35,11 @@ final class Asm {
         return word(lui(d, upper)).word(i(0x13, 0, d, d, number - upper));
     }
 
+    /** A number into d of which just the bits of the mask are not GIVEN; x31 never was, x29 and x30 are used up. */
+    Asm mixed(int d, int number, int mask) {
+        return li(30, mask).word(r(0, 7, 29, 31, 30)).li(d, number).word(r(0, 4, d, d, 29));
+    }
+
     /** A CALL by its number, with x10 as it is. */
     Asm call(int which) {
         return word(addi(17, 0, which)).word(CALL);
@@ -48,25 +53,49 @@ final class Asm {
         return li(11, x11).call(which, x10);
     }
 
-    ShadowHost into(ShadowHost host) {
+    /** Octet at of the IMAGE that this makes. */
+    int octet(int at) {
+        return words[at / 4] >>> 8 * (at % 4) & 255;
+    }
+
+    Renewed into(Renewed host) {
         int end = 0;
         for (int k = 0; k < words.length; k++) {
             end = words[k] != 0 ? k + 1 : end;
         }
         for (int k = 0; k < end; k += 2) {
-            host.image(k * 4, (words[k] & 0xFFFFFFFFL) | (long) words[k + 1] << 32);
+            host.image(k * 4, pair(k));
         }
         host.begin();
         return host;
     }
 
-    ShadowHost host() {
-        return into(new ShadowHost());
+    private long pair(int k) {
+        return (words[k] & 0xFFFFFFFFL) | (long) words[k + 1] << 32;
+    }
+
+    /** A new host, whose IMAGE is 0 already where this has zeros. */
+    Renewed host() {
+        Renewed host = new Renewed();
+        for (int k = 0; k < words.length; k += 2) {
+            if (pair(k) != 0) {
+                host.image(k * 4, pair(k));
+            }
+        }
+        host.begin();
+        return host;
+    }
+
+    /** A new host that has done n INSTRUCTIONS of this program. */
+    Renewed after(int n) {
+        Renewed host = host();
+        host.run(n);
+        return host;
     }
 
     /** A new host that has done this program to its end, or 100000 INSTRUCTIONS of it. */
-    ShadowHost done() {
-        ShadowHost host = host();
+    Renewed done() {
+        Renewed host = host();
         host.run(100000);
         return host;
     }

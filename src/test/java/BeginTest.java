@@ -4,7 +4,7 @@ public final class BeginTest {
         Asm asm = new Asm().call(2, 40).word(Asm.addi(8, 10, 0)).call(2, 24).call(3).call(5, 65)
                 .word(Asm.jal(1, 4)).word(Asm.load(2, 6, 7, 100)).word(Asm.store(2, 6, 2, -4))
                 .call(2, 0).call(1, 9);
-        ShadowHost host = asm.host();
+        Renewed host = asm.host();
         Check.due("EXIT", host.run(1000), 1);
         Check.due("KEPT", host.count(8), 1);
         Check.due("put out", host.count(6), 1);
@@ -33,7 +33,7 @@ public final class BeginTest {
 
     /** No BLOCK of before is LIVE or KEPT, nor are its octets counted with those that are KEPT. */
     private static void noBlocks() {
-        ShadowHost host = new Asm().call(2, 2000).word(Asm.addi(18, 10, 0)).call(2, 8).word(Asm.addi(10, 18, 0)).call(3)
+        Renewed host = new Asm().call(2, 2000).word(Asm.addi(18, 10, 0)).call(2, 8).word(Asm.addi(10, 18, 0)).call(3)
                 .word(Asm.BREAK).done();
         Check.due("LIVE", host.count(7), 1);
         Check.due("KEPT", host.count(8), 1);
@@ -47,7 +47,7 @@ public final class BeginTest {
         Check.error("no LIVE one there", host, 1, 7, 28, 32784 + 2016);
     }
 
-    private static int[] all(ShadowHost host) {
+    private static int[] all(Renewed host) {
         int[] all = new int[11 + 64 + 65536 + 420];
         int n = 0;
         for (int what = 0; what <= 10; what++) {

@@ -2,15 +2,34 @@
 final class Check {
     private static int checks = 0;
     private static int wrong = 0;
+    private static String sentence = "";
+    private static int checksBefore = 0;
 
     private Check() {
+    }
+
+    /** The checks that follow are about these words of the document; each sentence must have some. */
+    static void sentence(String words) {
+        endSentence();
+        sentence = words;
+        checksBefore = checks;
+    }
+
+    private static void endSentence() {
+        if (!sentence.isEmpty() && checks == checksBefore) {
+            tellWrong("nothing was checked");
+        }
+    }
+
+    private static void tellWrong(String what) {
+        wrong++;
+        System.out.println((sentence.isEmpty() ? "" : "\"" + sentence + "\": ") + what);
     }
 
     static void due(String call, long got, long want) {
         checks++;
         if (got != want) {
-            wrong++;
-            System.out.println(call + " answered " + got + ", due is " + want);
+            tellWrong(call + " answered " + got + ", due is " + want);
         }
     }
 
@@ -34,12 +53,11 @@ final class Check {
             }
             got = e.getClass().getSimpleName();
         }
-        wrong++;
-        System.out.println(call + " threw " + got + ", due is " + want.getSimpleName());
+        tellWrong(call + " threw " + got + ", due is " + want.getSimpleName());
     }
 
     /** One told ERROR whole: which, PC, NUMBER and four RETURNS. */
-    static void error(String about, ShadowHost host, int k, int... want) {
+    static void error(String about, Renewed host, int k, int... want) {
         if (k >= host.count(4)) {
             due(about + ": ERRORS told are more than " + k, host.count(4), k + 1);
             return;
@@ -50,6 +68,7 @@ final class Check {
     }
 
     static void finish() {
+        endSentence();
         System.out.println(checks + " checks, " + wrong + " wrong");
         if (wrong != 0 || checks == 0) {
             System.exit(1);

@@ -1,7 +1,7 @@
 /** Promise 2: image. */
 public final class ImageTest {
     public static void main(String[] args) {
-        ShadowHost host = new ShadowHost();
+        Renewed host = new Renewed();
         host.image(0, 0x8877665544332211L);
         host.image(16376, -2L);
         Check.due("nothing comes before begin()", host.memory(0), 65536);
@@ -23,7 +23,7 @@ public final class ImageTest {
         Check.finish();
     }
 
-    private static void wrongInputs(ShadowHost host) {
+    private static void wrongInputs(Renewed host) {
         int[] wrong = {-8, -1, 1, 4, 7, 9, 16377, 16380, 16384, 65536, Integer.MIN_VALUE, Integer.MAX_VALUE, -16376};
         for (int at : wrong) {
             Check.illegal("image(" + at + ", 5)", () -> host.image(at, 5L));
@@ -33,7 +33,7 @@ public final class ImageTest {
     }
 
     private static void storedIsNotKept() {
-        ShadowHost host = new Asm().word(Asm.addi(5, 0, 7)).word(Asm.store(2, 5, 0, 64)).done();
+        Renewed host = new Asm().word(Asm.addi(5, 0, 7)).word(Asm.store(2, 5, 0, 64)).done();
         Check.due("stored", host.memory(64), 65536 + 7);
         host.begin();
         Check.due("gone with begin()", host.memory(64), 65536);

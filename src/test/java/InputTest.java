@@ -13,7 +13,7 @@ public final class InputTest {
     }
 
     private static void readsInOrder() {
-        ShadowHost host = reader().host();
+        Renewed host = reader().host();
         Check.due("one octet", host.input(0xFFEEL, 1), 1);
         Check.due("behind it eight", host.input(0x0807060504030201L, 8), 9);
         host.run(3);
@@ -36,7 +36,7 @@ public final class InputTest {
     }
 
     private static void wrongInputs() {
-        ShadowHost host = reader().host();
+        Renewed host = reader().host();
         for (int n : new int[] {0, 9, -1, 16, Integer.MIN_VALUE, Integer.MAX_VALUE}) {
             Check.illegal("input(1, " + n + ")", () -> host.input(1L, n));
         }

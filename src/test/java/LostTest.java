@@ -13,7 +13,7 @@ public final class LostTest {
 
     /** What an earlier EXIT had FOUND does not count behind begin(). */
     private static void foundAnew() {
-        ShadowHost host = new Asm().call(2, 20).words(Asm.store(2, 10, 2, -4), Asm.addi(5, 10, 0)).call(2, 20)
+        Renewed host = new Asm().call(2, 20).words(Asm.store(2, 10, 2, -4), Asm.addi(5, 10, 0)).call(2, 20)
                 .words(Asm.store(2, 10, 5, 0), Asm.addi(5, 0, 0)).call(1, 0).done();
         Check.due("FOUND", host.count(5), 0);
         host.image(16, 0x0F | (long) Asm.addi(5, 10, 0) << 32);
@@ -23,11 +23,11 @@ public final class LostTest {
     }
 
     /** Ends the program with x10 0; the numbers it wrote by li are gone from x5, x10 and x11. */
-    private static ShadowHost end(Asm asm) {
+    private static Renewed end(Asm asm) {
         return asm.words(Asm.addi(5, 0, 0), Asm.addi(11, 0, 0)).call(1, 0).done();
     }
 
-    private static void lost(String about, ShadowHost host, int... addresses) {
+    private static void lost(String about, Renewed host, int... addresses) {
         Check.due(about + ": EXIT", host.count(0), 1);
         Check.due(about + ": ERRORS", host.count(5), addresses.length);
         for (int k = 0; k < addresses.length; k++) {
@@ -68,7 +68,7 @@ public final class LostTest {
         for (int at : new int[] {1025, 1026, 1027, 57346}) {
             lost("no multiple of 4: " + at, end(new Asm().call(2, 20).li(5, at).word(Asm.store(2, 10, 5, 0))), FIRST);
         }
-        ShadowHost shut = end(new Asm().call(2, 20).li(5, 20000).word(Asm.store(2, 10, 5, 0)));
+        Renewed shut = end(new Asm().call(2, 20).li(5, 20000).word(Asm.store(2, 10, 5, 0)));
         Check.error("not OPEN", shut, 1, 8, shut.count(2), FIRST);
         Check.due("two", shut.count(5), 2);
         for (int octet = 0; octet < 4; octet++) {
@@ -77,7 +77,7 @@ public final class LostTest {
                 lost("octet " + octet + " and the next one are not GIVEN", end(ungiven(octet, 1, 5)), FIRST);
             }
         }
-        ShadowHost again = end(new Asm().call(2, 20).words(Asm.store(1, 10, 2, -4), Asm.store(1, 0, 2, -2)));
+        Renewed again = end(new Asm().call(2, 20).words(Asm.store(1, 10, 2, -4), Asm.store(1, 0, 2, -2)));
         lost("by halves, all GIVEN", again);
     }
 
@@ -108,7 +108,7 @@ public final class LostTest {
 
     private static void told() {
         // In a function, with an ERROR of the EXIT itself before.
-        ShadowHost host = new Asm().call(2, 0).call(2, 5).word(Asm.jal(1, 4)).words(Asm.i(0x13, 7, 10, 31, 255)).call(1).done();
+        Renewed host = new Asm().call(2, 0).call(2, 5).word(Asm.jal(1, 4)).words(Asm.i(0x13, 7, 10, 31, 255)).call(1).done();
         int pc = 11 * 4;
         Check.due("PC", host.count(2), pc);
         Check.error("5 comes first", host, 0, 5, pc, 10, 36, 0, 0, 0);
@@ -118,7 +118,7 @@ public final class LostTest {
         Check.due("counted", host.count(5), 3);
         host.run(10);
         Check.due("not again", host.count(5), 3);
-        ShadowHost many = new Asm().words(Asm.addi(6, 0, 100), Asm.addi(17, 0, 2), Asm.addi(10, 0, 1), Asm.CALL, Asm.addi(6, 6, -1),
+        Renewed many = new Asm().words(Asm.addi(6, 0, 100), Asm.addi(17, 0, 2), Asm.addi(10, 0, 1), Asm.CALL, Asm.addi(6, 6, -1),
                 Asm.branch(1, 6, 0, -12)).call(1, 3).done();
         Check.due("60 at most", many.count(4), 60);
         Check.due("counted are all", many.count(5), 100);

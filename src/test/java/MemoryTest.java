@@ -1,7 +1,7 @@
 /** Promise 8: memory. */
 public final class MemoryTest {
     public static void main(String[] args) {
-        ShadowHost host = new ShadowHost();
+        Renewed host = new Renewed();
         for (int at : new int[] {-1, 65536, Integer.MIN_VALUE, Integer.MAX_VALUE}) {
             Check.outOfBounds("memory(" + at + ")", () -> host.memory(at));
         }
@@ -16,7 +16,7 @@ public final class MemoryTest {
     private static void stores() {
         // x5 is 0x00FF and not GIVEN in the bits 4 to 11.
         Asm asm = new Asm().li(6, 0xFF0).words(Asm.r(0, 7, 5, 31, 6), Asm.i(0x13, 4, 5, 5, 255), Asm.store(1, 5, 0, 2000));
-        ShadowHost host = asm.li(7, 30000).words(Asm.store(2, 5, 7, 0), Asm.store(2, 0, 2, -4)).host();
+        Renewed host = asm.li(7, 30000).words(Asm.store(2, 5, 7, 0), Asm.store(2, 0, 2, -4)).host();
         host.run(9);
         Check.due("the octet with its shadow", host.memory(2000), 65536 + 0xF0 * 256 + 255);
         Check.due("the next octet", host.memory(2001), 65536 + 0x0F * 256);

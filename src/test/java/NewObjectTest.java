@@ -1,7 +1,7 @@
 /** Promise 1: a new object has no IMAGE and is as begin() leaves it. */
 public final class NewObjectTest {
     public static void main(String[] args) {
-        ShadowHost fresh = new ShadowHost();
+        Renewed fresh = new Renewed();
         asBegun("new", fresh);
         fresh.begin();
         asBegun("new and begun", fresh);
@@ -12,7 +12,7 @@ public final class NewObjectTest {
         Check.finish();
     }
 
-    private static void asBegun(String about, ShadowHost host) {
+    private static void asBegun(String about, Renewed host) {
         for (int what = 0; what <= 10; what++) {
             Check.due(about + ": count(" + what + ")", host.count(what), 0);
         }

@@ -1,7 +1,7 @@
 /** Promise 10: output, and CALL 5 that puts out. */
 public final class OutputTest {
     public static void main(String[] args) {
-        ShadowHost host = new Asm().call(5, 0x12345678).call(5, -1).call(5, 0).word(Asm.BREAK).done();
+        Renewed host = new Asm().call(5, 0x12345678).call(5, -1).call(5, 0).word(Asm.BREAK).done();
         Check.due("three", host.count(6), 3);
         Check.due("the lowest octet", host.output(0), 0x78);
         Check.due("without sign", host.output(1), 255);
@@ -16,13 +16,13 @@ public final class OutputTest {
     }
 
     private static void stays() {
-        ShadowHost host = new Asm().call(5).word(Asm.BREAK).done();
+        Renewed host = new Asm().call(5).word(Asm.BREAK).done();
         Check.due("x10 is not GIVEN as before", host.unknown(10), -1);
         Check.due("put out all the same", host.output(0), 0);
     }
 
     private static void many() {
-        ShadowHost host = new Asm().words(Asm.addi(17, 0, 5), Asm.addi(10, 0, 0), Asm.CALL, Asm.addi(10, 10, 1), Asm.jal(0, -8)).host();
+        Renewed host = new Asm().words(Asm.addi(17, 0, 5), Asm.addi(10, 0, 0), Asm.CALL, Asm.addi(10, 10, 1), Asm.jal(0, -8)).host();
         host.run(2 + 3 * 4095);
         Check.due("4095", host.count(6), 4095);
         host.run(3);

@@ -11,7 +11,7 @@ public final class RunTest {
     }
 
     private static void counts() {
-        ShadowHost host = new Asm().word(Asm.addi(5, 5, 1)).word(Asm.jal(0, -4)).host();
+        Renewed host = new Asm().word(Asm.addi(5, 5, 1)).word(Asm.jal(0, -4)).host();
         Check.due("run(0)", host.run(0), 0);
         Check.due("nothing done", host.count(3), 0);
         Check.due("run(1)", host.run(1), 0);
@@ -19,7 +19,7 @@ public final class RunTest {
         Check.due("run(100000)", host.run(100000), 0);
         Check.due("100001 done", host.count(3), 100001);
         Check.due("50001 rounds", host.register(5), 50001);
-        ShadowHost exit = new Asm().call(1, -7).host();
+        Renewed exit = new Asm().call(1, -7).host();
         Check.due("not yet", exit.run(3), 0);
         Check.due("EXIT", exit.run(1), 1);
         Check.due("still", exit.run(5), 1);
@@ -33,14 +33,14 @@ public final class RunTest {
     }
 
     private static void wrongInputs() {
-        ShadowHost host = new Asm().word(Asm.addi(5, 5, 1)).word(Asm.jal(0, -4)).host();
+        Renewed host = new Asm().word(Asm.addi(5, 5, 1)).word(Asm.jal(0, -4)).host();
         for (int n : new int[] {-1, 100001, Integer.MIN_VALUE, Integer.MAX_VALUE}) {
             Check.illegal("run(" + n + ")", () -> host.run(n));
         }
         Check.due("nothing was done", host.count(3), 0);
     }
 
-    private static void trapped(String about, ShadowHost host, int which, int pc, int done) {
+    private static void trapped(String about, Renewed host, int which, int pc, int done) {
         Check.due(about + ": run", host.run(100000), 2);
         Check.due(about + ": count(0)", host.count(0), 2);
         Check.due(about + ": which TRAP", host.count(1), which);
@@ -64,16 +64,16 @@ public final class RunTest {
             0x200073, 0x1073, 0xF3, 0x80000073, 0x10200073, 0x8073, 0x100173,
         };
         for (int w : bad) {
-            ShadowHost host = new Asm().word(Asm.addi(0, 0, 0)).word(w).host();
+            Renewed host = new Asm().word(Asm.addi(0, 0, 0)).word(w).host();
             trapped("word " + Integer.toHexString(w), host, 1, 4, 1);
             Check.due("of TRAP 1 no ERROR but 1", host.count(5), 0);
             Check.due("D as it was", host.unknown(5), -1);
             Check.due("no RETURN", host.count(10), 0);
         }
-        ShadowHost breaks = new Asm().word(Asm.BREAK).host();
+        Renewed breaks = new Asm().word(Asm.BREAK).host();
         trapped("0x100073", breaks, 3, 0, 0);
         Check.due("no ERROR", breaks.count(5), 0);
-        ShadowHost nothing = new Asm().words(0x0F, 0xFFFFFF8F, 0x100F, Asm.BREAK).host();
+        Renewed nothing = new Asm().words(0x0F, 0xFFFFFF8F, 0x100F, Asm.BREAK).host();
         trapped("0x0F does nothing", nothing, 3, 12, 3);
         Check.due("no D", nothing.unknown(31), -1);
     }
@@ -83,12 +83,12 @@ public final class RunTest {
         trapped("PC behind MEMORY", new Asm().li(5, 65536).word(Asm.jalr(0, 5, 0)).host(), 0, 65536, 3);
         trapped("PC before MEMORY", new Asm().word(Asm.jal(0, -4)).host(), 0, -4, 1);
         trapped("odd", new Asm().word(Asm.jalr(0, 0, 3)).host(), 0, 2, 1);
-        ShadowHost last = new Asm().li(5, 65532).li(6, 0x0F).word(Asm.store(2, 6, 5, 0)).word(Asm.jalr(0, 5, 0)).host();
+        Renewed last = new Asm().li(5, 65532).li(6, 0x0F).word(Asm.store(2, 6, 5, 0)).word(Asm.jalr(0, 5, 0)).host();
         trapped("the last word is one", last, 0, 65536, 7);
-        ShadowHost shut = new Asm().word(Asm.addi(0, 0, 0)).word(Asm.jalr(0, 0, -2)).host();
+        Renewed shut = new Asm().word(Asm.addi(0, 0, 0)).word(Asm.jalr(0, 0, -2)).host();
         trapped("beyond and by halves", shut, 0, -2, 2);
         Check.due("without ERRORS", shut.count(5), 0);
-        ShadowHost notYet = new Asm().word(Asm.jal(0, 6)).host();
+        Renewed notYet = new Asm().word(Asm.jal(0, 6)).host();
         Check.due("the TRAP comes with the next one", notYet.run(1), 0);
         Check.due("PC is there", notYet.count(2), 6);
         Check.due("run(0) does none", notYet.run(0), 0);
@@ -97,28 +97,28 @@ public final class RunTest {
     private static void beyond() {
         int[][] cases = {{65536, 0}, {65535, 1}, {65535, 2}, {65533, 2}, {65534, 2}, {-1, 0}, {-4, 2}, {-2, 1}, {-1, 1}, {0x7FFFFFFF, 0}};
         for (int[] c : cases) {
-            ShadowHost load = new Asm().li(5, c[0]).word(Asm.load(c[1], 6, 5, 0)).host();
+            Renewed load = new Asm().li(5, c[0]).word(Asm.load(c[1], 6, 5, 0)).host();
             trapped("read " + c[0] + " by " + c[1], load, 2, 8, 2);
             Check.due("D as it was", load.unknown(6), -1);
             Check.due("no ERROR 4", load.count(5), 0);
-            ShadowHost store = new Asm().li(5, c[0]).word(Asm.store(c[1], 0, 5, 0)).host();
+            Renewed store = new Asm().li(5, c[0]).word(Asm.store(c[1], 0, 5, 0)).host();
             trapped("write " + c[0] + " by " + c[1], store, 2, 8, 2);
             Check.due("the last octet as it was", store.memory(65535), 65536 + 65280);
             Check.due("the first octet as it was", store.memory(0), 65536 + 0xB7);
         }
-        ShadowHost edge = new Asm().word(Asm.store(2, 0, 2, -4)).word(Asm.load(5, 6, 2, -2)).word(Asm.BREAK).host();
+        Renewed edge = new Asm().word(Asm.store(2, 0, 2, -4)).word(Asm.load(5, 6, 2, -2)).word(Asm.BREAK).host();
         trapped("the last octets", edge, 3, 8, 2);
-        ShadowHost wraps = new Asm().word(Asm.addi(5, 0, -4)).word(Asm.load(2, 6, 5, 8)).word(Asm.BREAK).host();
+        Renewed wraps = new Asm().word(Asm.addi(5, 0, -4)).word(Asm.load(2, 6, 5, 8)).word(Asm.BREAK).host();
         trapped("addresses wrap", wraps, 3, 8, 2);
         Check.due("read at 4", wraps.register(6), Asm.load(2, 6, 5, 8));
-        ShadowHost ungiven = new Asm().word(Asm.load(2, 6, 5, -4)).host();
+        Renewed ungiven = new Asm().word(Asm.load(2, 6, 5, -4)).host();
         trapped("TRAP 2 with ERROR 3", ungiven, 2, 0, 0);
         Check.due("ERROR 3 alone", ungiven.count(5), 1);
         Check.error("TRAP 2", ungiven, 0, 3, 0, -4, 0, 0, 0, 0);
     }
 
     private static void selfWritten() {
-        ShadowHost host = new Asm().li(5, Asm.addi(6, 0, 77)).word(Asm.store(2, 5, 0, 12)).word(0).word(Asm.BREAK).host();
+        Renewed host = new Asm().li(5, Asm.addi(6, 0, 77)).word(Asm.store(2, 5, 0, 12)).word(0).word(Asm.BREAK).host();
         trapped("an INSTRUCTION as it is then", host, 3, 16, 4);
         Check.due("x6", host.register(6), 77);
     }

@@ -13,7 +13,7 @@ public final class UnknownTest {
     }
 
     private static void wrongInputs() {
-        ShadowHost host = new ShadowHost();
+        Renewed host = new Renewed();
         for (int k : new int[] {-1, 32, Integer.MIN_VALUE, Integer.MAX_VALUE}) {
             Check.outOfBounds("unknown(" + k + ")", () -> host.unknown(k));
         }
@@ -22,11 +22,6 @@ public final class UnknownTest {
         Check.due("unknown(2)", host.unknown(2), 0);
         Check.due("unknown(3)", host.unknown(3), -1);
         Check.due("unknown(31)", host.unknown(31), -1);
-    }
-
-    /** A number into d of which just the bits of the mask are not GIVEN; x31 never was. */
-    private static Asm mixed(Asm asm, int d, int number, int mask) {
-        return asm.li(30, mask).word(Asm.r(0, 7, 29, 31, 30)).li(d, number).word(Asm.r(0, 4, d, d, 29));
     }
 
     /** Bit by bit, as the document says it; x31 is 0, so the number is as it was written. */
@@ -74,11 +69,11 @@ public final class UnknownTest {
             for (int maskB : MASKS) {
                 for (int a : NUMBERS) {
                     for (int b : NUMBERS) {
-                        Asm asm = mixed(mixed(new Asm(), 5, a, maskA), 6, b, maskB);
+                        Asm asm = new Asm().mixed(5, a, maskA).mixed(6, b, maskB);
                         for (int k = 0; k < kinds.length; k++) {
                             asm.word(Asm.r(kinds[k][0], kinds[k][1], 8 + k, 5, 6));
                         }
-                        ShadowHost host = asm.host();
+                        Renewed host = asm.host();
                         host.run(12 + kinds.length);
                         Check.due("the mask of A", host.unknown(5), maskA);
                         Check.due("A", host.register(5), a);
@@ -96,13 +91,13 @@ public final class UnknownTest {
         for (int mask : MASKS) {
             for (int a : NUMBERS) {
                 for (int number : new int[] {0, -1, 1, 31, 16, 0x7FF, -2048}) {
-                    Asm asm = mixed(new Asm(), 5, a, mask);
+                    Asm asm = new Asm().mixed(5, a, mask);
                     for (int f : new int[] {0, 2, 3, 4, 6, 7}) {
                         asm.word(Asm.i(0x13, f, 8 + f, 5, number));
                     }
                     asm.words(Asm.i(0x13, 1, 9, 5, number & 31), Asm.i(0x13, 5, 13, 5, number & 31),
                             Asm.i(0x13, 5, 16, 5, 0x400 | number & 31));
-                    ShadowHost host = asm.host();
+                    Renewed host = asm.host();
                     host.run(15);
                     for (int f = 0; f < 8; f++) {
                         Check.due("0x13 F " + f + " of " + a + "?" + mask + ", " + number, host.unknown(8 + f),
@@ -115,7 +110,7 @@ public final class UnknownTest {
     }
 
     private static void known() {
-        ShadowHost host = new Asm().words(Asm.lui(5, 0x1000), Asm.auipc(6, 0x1000), Asm.jal(7, 4), Asm.jalr(8, 2, -1), Asm.addi(9, 0, 4))
+        Renewed host = new Asm().words(Asm.lui(5, 0x1000), Asm.auipc(6, 0x1000), Asm.jal(7, 4), Asm.jalr(8, 2, -1), Asm.addi(9, 0, 4))
                 .host();
         host.run(4);
         for (int k = 5; k <= 8; k++) {
@@ -129,19 +124,19 @@ public final class UnknownTest {
         // The STACK is not GIVEN; 0x0F0F0F0F not GIVEN lies at 65528, but for its octet 65529 that is stored GIVEN.
         int[] want = {0x0F, 0x0F, 0x0F0F000F, 0, 0x0F, 0x0F};
         for (int f : new int[] {0, 1, 2, 4, 5}) {
-            ShadowHost host = mixed(new Asm(), 5, -1, 0x0F0F0F0F).words(Asm.store(2, 5, 2, -8), Asm.store(0, 0, 2, -7),
+            Renewed host = new Asm().mixed(5, -1, 0x0F0F0F0F).words(Asm.store(2, 5, 2, -8), Asm.store(0, 0, 2, -7),
                     Asm.load(f, 6, 2, -8)).host();
             host.run(9);
             Check.due("0x03 F " + f, host.unknown(6), want[f]);
         }
         int[] signs = {-1, -1, -1, 0, 255, 65535};
         for (int f : new int[] {0, 1, 2, 4, 5}) {
-            ShadowHost host = new Asm().word(Asm.load(f, 6, 2, -4)).host();
+            Renewed host = new Asm().word(Asm.load(f, 6, 2, -4)).host();
             host.run(1);
             Check.due("the sign is as it is, F " + f, host.unknown(6), signs[f]);
             Check.due("no ERROR", host.count(5), 0);
         }
-        ShadowHost sign = mixed(new Asm(), 5, 0, 0x8080).words(Asm.store(1, 5, 2, -2), Asm.load(1, 6, 2, -2), Asm.load(0, 7, 2, -2),
+        Renewed sign = new Asm().mixed(5, 0, 0x8080).words(Asm.store(1, 5, 2, -2), Asm.load(1, 6, 2, -2), Asm.load(0, 7, 2, -2),
                 Asm.load(5, 8, 2, -2)).host();
         sign.run(10);
         Check.due("two octets with sign", sign.unknown(6), 0xFFFF8080);
@@ -152,12 +147,12 @@ public final class UnknownTest {
 
     /** What is not OPEN is read as GIVEN, octet by octet, though it was stored otherwise. */
     private static void shut() {
-        ShadowHost host = new Asm().li(5, 20000).words(Asm.store(2, 31, 5, 0), Asm.load(2, 6, 5, 0)).host();
+        Renewed host = new Asm().li(5, 20000).words(Asm.store(2, 31, 5, 0), Asm.load(2, 6, 5, 0)).host();
         host.run(4);
         Check.due("stored as not GIVEN", host.memory(20000), 255 * 256);
         Check.due("read as GIVEN", host.unknown(6), 0);
         // 57342 and 57343 are not OPEN, 57344 and 57345 are.
-        ShadowHost edge = new Asm().li(5, 57344).words(Asm.store(2, 31, 5, -2), Asm.load(2, 6, 5, -2), Asm.load(1, 7, 5, -1)).host();
+        Renewed edge = new Asm().li(5, 57344).words(Asm.store(2, 31, 5, -2), Asm.load(2, 6, 5, -2), Asm.load(1, 7, 5, -1)).host();
         edge.run(5);
         Check.due("the lower octets alone", edge.unknown(6), 0xFFFF0000);
         Check.due("with the sign", edge.unknown(7), 0xFFFFFF00);
