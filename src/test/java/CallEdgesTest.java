@@ -5,6 +5,7 @@ public final class CallEdgesTest {
 
     public static void main(String[] args) {
         answers();
+        nothingElse();
         otherRegistersStay();
         ungivenWhich();
         ungivenFirst();
@@ -41,6 +42,23 @@ public final class CallEdgesTest {
         Check.due("3 of a BLOCK: x10 stays", back.register(10), FIRST);
         Check.due("as it was", back.unknown(10), 1);
         Check.due("given back", back.count(7), 0);
+    }
+
+    private static void nothingElse() {
+        Check.sentence("CALLS by x17, with x10, x11");
+        for (int call = 0; call <= 7; call++) {
+            // Two octets are put in; x10 is 0, x11 is 8.
+            Renewed host = new Asm().call(call, 0, 8).call(6).host();
+            host.input(0x4241L, 2);
+            host.run(6);
+            Check.due("CALL " + call + ": how it ended", host.count(0), call == 1 ? 1 : 0);
+            Check.due("CALL " + call + ": put out", host.count(6), call == 5 ? 1 : 0);
+            Check.due("CALL " + call + ": LIVE", host.count(7), call == 2 || call == 4 ? 1 : 0);
+            Check.due("CALL " + call + ": KEPT", host.count(8), 0);
+            Check.due("CALL " + call + ": ERRORS", host.count(5), 0);
+            host.run(2);
+            Check.due("CALL " + call + ": the next octet", host.register(10), call == 1 ? 0 : call == 6 ? 0x42 : 0x41);
+        }
     }
 
     private static void otherRegistersStay() {

@@ -15,6 +15,7 @@ public final class ExitEdgesTest {
         allGiven();
         inBlocks();
         suchFourOctets();
+        foundAnew();
         Check.finish();
     }
 
@@ -233,5 +234,21 @@ public final class ExitEdgesTest {
         }
         Renewed last = end(new Asm().call(2, 2048).word(Asm.addi(18, 10, 0)).call(2, 20).words(Asm.addi(5, 18, 2044), Asm.store(2, 10, 5, 0)));
         lost("the last four of many", last);
+    }
+
+    private static void foundAnew() {
+        Check.sentence("FOUND are those of which");
+        // Two BLOCKS, one in the other, which the STACK has; then the same again, but that the STACK has it no more.
+        Asm asm = new Asm().call(2, 20).words(Asm.store(2, 10, 2, -4), Asm.addi(18, 10, 0)).call(2, 20).words(Asm.store(2, 10, 18, 0),
+                Asm.addi(18, 0, 0)).call(1, 0);
+        Renewed host = asm.done();
+        lost("both are FOUND", host);
+        host.image(16, 0x0F | (long) Asm.addi(18, 10, 0) << 32);
+        host.begin();
+        Check.due("EXIT", host.run(100), 1);
+        lost("what another EXIT had FOUND does not count", host, FIRST, FIRST + 48);
+        asm.into(host);
+        Check.due("EXIT", host.run(100), 1);
+        lost("both are FOUND again", host);
     }
 }

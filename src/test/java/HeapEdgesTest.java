@@ -143,10 +143,11 @@ public final class HeapEdgesTest {
             Check.due(n + ": KEPT", host.count(8), n <= 2048 ? 1 : 0);
             Check.due(n + ": LIVE octets", host.count(9), 0);
         }
-        // Only its n octets: what is not GIVEN behind them stays so.
-        Renewed behind = new Asm().call(2, 4).word(Asm.store(2, 31, 10, 4)).call(3).word(Asm.load(0, 6, 10, 0)).after(8);
-        Check.due("behind it", behind.memory(FIRST + 4), 255 * 256);
-        Check.error("what is KEPT is not OPEN", behind, 1, 4, 28, FIRST);
+        // Only its n octets: what is not GIVEN before and behind them stays so.
+        Renewed beside = new Asm().call(2, 4).words(Asm.store(2, 31, 10, 4), Asm.store(2, 31, 10, -4)).call(3).word(Asm.load(0, 6, 10, 0)).after(9);
+        Check.due("before it", beside.memory(FIRST - 1), 255 * 256);
+        Check.due("behind it", beside.memory(FIRST + 4), 255 * 256);
+        Check.error("what is KEPT is not OPEN", beside, 2, 4, 32, FIRST);
         // In this order they are KEPT, not by addresses: the second was given back first and goes first.
         Renewed order = keep(new int[] {1000, 1000, 1000}, new int[] {1, 0, 2});
         Check.due("two are left", order.count(8), 2);
@@ -210,6 +211,8 @@ public final class HeapEdgesTest {
         Renewed four = new Asm().call(2, 24).call(3).word(Asm.addi(11, 0, 8)).call(4).after(9);
         Check.error("4", four, 0, 6, 32, FIRST, 0, 0, 0, 0);
         Check.due("4 tells 0", four.register(10), 0);
+        Renewed large = new Asm().call(2, 24).call(3).word(Asm.addi(11, 0, -1)).call(4).after(9);
+        Check.error("4, though there can be no such BLOCK", large, 0, 6, 32, FIRST, 0, 0, 0, 0);
         Renewed inside = new Asm().call(2, 24).call(3).word(Asm.addi(10, 10, 16)).call(3).after(9);
         Check.error("inside of a KEPT one is 7", inside, 0, 7, 32, FIRST + 16, 0, 0, 0, 0);
         Renewed none = new Asm().call(2, 0).call(3).call(3).after(8);

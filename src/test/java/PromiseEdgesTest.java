@@ -13,6 +13,7 @@ public final class PromiseEdgesTest {
         inputsRefused();
         tooManyInputs();
         begins();
+        beginWithoutBlocks();
         beginReadsAnew();
         runs();
         runsBehindTheEnd();
@@ -215,6 +216,30 @@ public final class PromiseEdgesTest {
         Check.due("the same again", ended.run(100000), 1);
         Check.due("ERRORS are told anew", ended.count(4), 3);
         Check.due("x10", ended.count(1), 7);
+    }
+
+    private static void beginWithoutBlocks() {
+        Check.sentence("no BLOCKS, no RETURNS, no ERRORS");
+        // A KEPT BLOCK of 2000 octets and a LIVE one behind it, four RETURNS and an ERROR.
+        Asm before = new Asm().call(2, 2000).word(Asm.addi(18, 10, 0)).call(2, 8).word(Asm.addi(10, 18, 0)).call(3)
+                .words(Asm.jal(1, 4), Asm.jal(1, 4), Asm.jal(1, 4), Asm.jal(1, 4), Asm.branch(0, 31, 0, 4), Asm.BREAK);
+        Renewed host = before.done();
+        Check.due("LIVE", host.count(7), 1);
+        Check.due("KEPT", host.count(8), 1);
+        new Asm().call(3, FIRST).call(3, FIRST + 2016).word(Asm.BREAK).into(host).run(100);
+        Check.error("no KEPT one there", host, 0, 7, 12, FIRST, 0, 0, 0, 0);
+        Check.error("no LIVE one there", host, 1, 7, 28, FIRST + 2016, 0, 0, 0, 0);
+        before.into(host).run(100);
+        new Asm().call(2, 100).word(Asm.addi(18, 10, 0)).call(3).word(Asm.BREAK).into(host).run(100);
+        Check.due("its place is free", host.register(18), FIRST);
+        Check.due("what was KEPT before does not count", host.count(8), 1);
+        before.into(host).run(100);
+        new Asm().words(0x0F, 0x0F, Asm.branch(0, 31, 0, 4), Asm.branch(0, 31, 0, 4), Asm.BREAK).into(host).run(100);
+        Check.error("without the RETURNS of before", host, 0, 2, 8, 0, 0, 0, 0, 0);
+        Check.due("told", host.count(4), 2);
+        int pair = before.here() - 8;
+        before.into(host).run(100);
+        Check.error("a pair that was told before is told again", host, 0, 2, pair, 0, pair, pair - 4, pair - 8, pair - 12);
     }
 
     private static void beginReadsAnew() {

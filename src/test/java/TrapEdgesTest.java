@@ -122,7 +122,7 @@ public final class TrapEdgesTest {
         Check.sentence("reading an INSTRUCTION at a PC that is no multiple of 4, or beyond: TRAP 0, without ERRORS");
         int[] there = {1026, 1025 * 2, 2, 20002, 32770, 57346, 65534, 65536, 65538, 65540, -4, -2, Integer.MIN_VALUE, Integer.MAX_VALUE - 3, 131072};
         for (int at : there) {
-            Renewed host = new Asm().words(Asm.jal(1, 4)).li(5, at).word(Asm.jalr(0, 5, 0)).host();
+            Renewed host = new Asm().words(Asm.jal(1, 4)).li(5, at).word(Asm.jalr(1, 5, 0)).host();
             Check.due("the jump to " + at, host.run(4), 0);
             Check.due("PC is there", host.count(2), at);
             Check.due("then", host.run(1), 2);
@@ -130,7 +130,8 @@ public final class TrapEdgesTest {
             Check.due("PC stays", host.count(2), at);
             Check.due("done", host.count(3), 4);
             Check.due("without ERRORS", host.count(5), 0);
-            Check.due("RETURNS as before", host.count(10), 1);
+            Check.due("RETURNS as before", host.count(10), 2);
+            Check.due("x1 as before", host.register(1), 16);
         }
         Renewed last = new Asm().li(5, 65532).words(Asm.addi(6, 0, 0x0F), Asm.store(2, 6, 5, 0), Asm.jalr(0, 5, 0)).host();
         Check.due("the last four octets", last.run(6), 0);
