@@ -6,9 +6,13 @@ import java.util.TreeSet;
 
 /** The face is that of the document, with nothing more to be seen from outside. */
 public final class FaceTest {
+    private static final String ILLEGAL = " IllegalArgumentException";
+    private static final String OUT_OF_BOUNDS = " IndexOutOfBoundsException";
     private static final String[] METHODS = {
-        "void image(int long)", "int input(long int)", "void begin()", "int run(int)", "int register(int)",
-        "int unknown(int)", "int memory(int)", "int error(int int)", "int output(int)", "int count(int)",
+        "void image(int long)" + ILLEGAL, "int input(long int)" + ILLEGAL + OUT_OF_BOUNDS, "void begin()",
+        "int run(int)" + ILLEGAL, "int register(int)" + OUT_OF_BOUNDS, "int unknown(int)" + OUT_OF_BOUNDS,
+        "int memory(int)" + OUT_OF_BOUNDS, "int error(int int)" + ILLEGAL + OUT_OF_BOUNDS,
+        "int output(int)" + OUT_OF_BOUNDS, "int count(int)" + ILLEGAL,
     };
 
     public static void main(String[] args) {
@@ -28,6 +32,7 @@ public final class FaceTest {
         }
         Constructor<?>[] made = face.getDeclaredConstructors();
         Check.due("constructors", made.length, 1);
+        Check.due("it is public", made[0].getModifiers(), Modifier.PUBLIC);
         Check.due("its parameters", made[0].getParameterCount(), 0);
         classesInside(face);
         Check.finish();
@@ -38,7 +43,11 @@ public final class FaceTest {
         for (Class<?> c : m.getParameterTypes()) {
             text.append(text.length() == 0 ? "" : " ").append(c);
         }
-        return m.getReturnType() + " " + m.getName() + "(" + text + ")";
+        StringBuilder thrown = new StringBuilder();
+        for (Class<?> c : m.getExceptionTypes()) {
+            thrown.append(" ").append(c.getSimpleName());
+        }
+        return m.getReturnType() + " " + m.getName() + "(" + text + ")" + thrown;
     }
 
     /** LANGUAGE.md, rules 1, 5 and 11; "some twelve" and "some twenty" there are no sharp bounds. */
